@@ -14,7 +14,7 @@ public final class PrickedPages {
     private static final int MOST_WORDS = 8, LONGEST_WORD = 6;
     private static final int MOST_SLIPS = 12, HANDS = 3, SHEETS = 4, MOST_ITEMS = 48, FORMS = 3;
     private static final int MOST_COST = 9, MOST_TOLD_COST = 999, MOST_OFTEN = 99, MOST_READINGS = 99;
-    private static final int COUNTS = 9, COUNTS_IN_DIGEST = 8;
+    private static final int COUNTS_IN_DIGEST = 8;
 
     // More than the WORDS that a line can hold, so that a cost and a number of WORDS go into one int.
     private static final int COST_STEP = 64;
