@@ -875,7 +875,7 @@ public final class PrickedPages {
     /** The WORDS that the text of words tells; none if it has a fault. */
     private static final class WordList {
         private final Text text = new Text(WORD_BYTES);
-        private final int[] starts = new int[MOST_WORDS];
+        private final int[] letters = new int[MOST_WORDS * LONGEST_WORD];
         private final int[] lengths = new int[MOST_WORDS];
         private int many;
         private int faultPlace = NONE;
@@ -884,12 +884,14 @@ public final class PrickedPages {
             return isWithin(word, 0, many - 1);
         }
 
+        // These two test their index themselves: calls are to stay few deep.
         private int lettersOf(int word) {
-            return has(word) ? at(lengths, word) : 0;
+            return word >= 0 && word < many && word < lengths.length ? lengths[word] : 0;
         }
 
         private int letterOf(int word, int i) {
-            return at(text.bytes, at(starts, word) + i) - 'a';
+            int place = word * LONGEST_WORD + i;
+            return place >= 0 && place < letters.length ? letters[place] : 0;
         }
 
         private void split() {
@@ -898,15 +900,19 @@ public final class PrickedPages {
             if (faultPlace != NONE || text.length == 0) {
                 return;
             }
-            int start = 0;
-            for (int i = 0; i <= text.length; i++) {
-                if (i == text.length || at(text.bytes, i) == ';') {
-                    lay(starts, many, start);
-                    lay(lengths, many, i - start);
-                    many++;
-                    start = i + 1;
+            Arrays.fill(lengths, 0);
+            int word = 0;
+            for (int i = 0; i < text.length; i++) {
+                int b = at(text.bytes, i);
+                if (b == ';') {
+                    word++;
+                } else {
+                    int before = at(lengths, word);
+                    lay(letters, word * LONGEST_WORD + before, b - 'a');
+                    lay(lengths, word, before + 1);
                 }
             }
+            many = word + 1;
         }
 
         private int firstFault() {
