@@ -16,30 +16,22 @@ public final class SignsTest {
         check.end();
     }
 
-    private static PrickedPages signed(int... signs) {
-        PrickedPages x = new PrickedPages();
-        for (int letter = 0; letter < signs.length; letter++) {
-            x.sign(letter, signs[letter]);
-        }
-        return x;
-    }
-
     private static void slippery() {
         check.due("at first", new PrickedPages().slippery(), 15);
-        check.due("all the same", signed(3, 3, 3, 3, 3, 3, 3, 3, 3, 3).slippery(), 0);
-        check.due("two of three points", signed(7, 3, 3, 3, 3, 3, 3, 3, 3, 3).slippery(), 9);
-        check.due("as many points, others", signed(3, 5, 6, 9, 10, 12, 17, 18, 20, 24).slippery(), 0);
-        check.due("two points less do not count", signed(15, 3, 3, 3, 3, 3, 3, 3, 3, 3).slippery(), 0);
+        check.due("all the same", Check.signed(3, 3, 3, 3, 3, 3, 3, 3, 3, 3).slippery(), 0);
+        check.due("two of three points", Check.signed(7, 3, 3, 3, 3, 3, 3, 3, 3, 3).slippery(), 9);
+        check.due("as many points, others", Check.signed(3, 5, 6, 9, 10, 12, 17, 18, 20, 24).slippery(), 0);
+        check.due("two points less do not count", Check.signed(15, 3, 3, 3, 3, 3, 3, 3, 3, 3).slippery(), 0);
     }
 
     private static void better() {
-        PrickedPages x = signed(1, 3, 3, 3, 3, 3, 3, 3, 3, 3);
+        PrickedPages x = Check.signed(1, 3, 3, 3, 3, 3, 3, 3, 3, 3);
         // Next to 3 are 1, 2, 7, 11, 19 and 35; so 4 is the least with one point.
         check.due("the least with fewest points", x.better(0), 4);
         check.due("others have 1 and 3", x.better(1), 4);
-        PrickedPages own = signed(4, 63, 63, 63, 63, 63, 63, 63, 63, 63);
+        PrickedPages own = Check.signed(4, 63, 63, 63, 63, 63, 63, 63, 63, 63);
         check.due("its own may be the better", own.better(0), 1);
-        PrickedPages few = signed(4, 8, 16, 32, 3, 3, 3, 3, 3, 3);
+        PrickedPages few = Check.signed(4, 8, 16, 32, 3, 3, 3, 3, 3, 3);
         check.due("all with one point, but its own, are taken or next", few.better(0), 4);
         check.due("1 comes from 3, so three points are the fewest", few.better(4), 13);
         check.due("better(10)", x.better(10), -2);
