@@ -16,6 +16,9 @@ public final class PrickedPages {
     private static final int MOST_COST = 9, MOST_TOLD_COST = 999, MOST_OFTEN = 99, MOST_READINGS = 99;
     private static final int COUNTS_IN_DIGEST = 8;
 
+    // What get() answers for BAD, since an item may be -2 itself.
+    private static final int LEAST_INT = -2147483648;
+
     // More than the WORDS that a line can hold, so that a cost and a number of WORDS go into one int.
     private static final int COST_STEP = 64;
 
@@ -381,12 +384,12 @@ public final class PrickedPages {
     public int get(int s, int form, int i) {
         Sheet sheet = sheetAt(s);
         if (sheet == null || !isForm(form)) {
-            return Integer.MIN_VALUE;
+            return LEAST_INT;
         }
         int finding = itemFinding(sheet, form, i);
         if (finding != 0) {
             latestFinding = finding;
-            return Integer.MIN_VALUE;
+            return LEAST_INT;
         }
         return at(sheet.items, i);
     }

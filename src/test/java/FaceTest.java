@@ -7,6 +7,8 @@ import java.nio.file.Files;
 import java.nio.file.Path;
 import java.util.Set;
 import java.util.TreeSet;
+import java.util.regex.Matcher;
+import java.util.regex.Pattern;
 
 /** The public face of the class, and those rules of LANGUAGE.md that a test can look at. */
 public final class FaceTest {
@@ -16,6 +18,12 @@ public final class FaceTest {
         "mirrored(I)I", "both(I)I", "fits(II)I", "meant(II)I", "within(II)I", "line(I)I", "slippery()I", "better(I)I",
         "shorts(II)I", "under(II)I", "clash(I)I", "hand(III)I", "whose()I", "wear(II)I", "sheet(III)I", "lose(I)I",
         "put(IIII)I", "get(III)I", "copy(IIIII)I", "write(I)I", "count(I)I", "digest()J");
+
+    private static final Pattern LIBRARY =
+        Pattern.compile("\\b(Integer|Long|Math|System|Arrays|String|Character|Byte|Short|List)\\.\\w+");
+    // Of what rule 4 lists, the names that the class has use for: constants of Integer are not among them.
+    private static final Set<String> LISTED = Set.of("Integer.bitCount", "Math.max", "Math.min", "System.arraycopy",
+        "Arrays.fill");
 
     public static void main(String[] args) throws IOException {
         constants();
@@ -90,8 +98,16 @@ public final class FaceTest {
         }
         check.holds("without lambdas and method references", !code.contains("->") && !code.contains("::"));
         check.holds("without texts", !code.contains("\""));
+        libraryNames(code);
         check.holds("the Arrays class alone", code.replaceAll("(?s)import java\\.util\\.Arrays;", "").indexOf("import ") < 0);
         methodLengths(code);
+    }
+
+    private static void libraryNames(String code) {
+        Matcher name = LIBRARY.matcher(code);
+        while (name.find()) {
+            check.holds("LANGUAGE.md lists " + name.group(), LISTED.contains(name.group()));
+        }
     }
 
     private static void methodLengths(String code) {
